@@ -1026,7 +1026,11 @@ public final class CellarPlot {
         }
     }
 
-    /** The bodies of all KINDS: each method begins its search for a body at the KIND from. */
+    /**
+     * The bodies of all KINDS: each method begins its search for a body at the
+     * KIND from. It calls itself for a KIND above alone, and tells call hums,
+     * and hums rolls, never back: so few calls stand open at once.
+     */
     private static final class Acts {
         int ran;
         final int[] bodies = new int[MOST_TRACE];

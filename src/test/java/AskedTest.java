@@ -70,6 +70,13 @@ public final class AskedTest {
         y.hear(0, 3);
         due("P15 v in a TEST: how many", y.can(0, 0), 3);
         due("P15 v in a TEST: the least", y.can(0, 1), 7);
+        Due.charter(y, "loud 3 v>8");
+        due("P15 just 9: the least", y.can(0, 1), 9);
+        for (int n = 2; n <= 5; n++) {
+            y.hear(n, 3);
+        }
+        due("P15 five rows", y.can(0, 0), 1);
+        due("P3 NERVES by five rows", y.of(0, 6), 0);
         y.change(0, true);
         due("P15 one that is UP", y.can(0, 0), 0);
         CellarPlot z = new CellarPlot();

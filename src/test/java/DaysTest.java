@@ -214,11 +214,28 @@ public final class DaysTest {
         y.change(0, true);
         y.change(2, true);
         due("P13 the fewest, not those that are", y.best(1, 0), 2);
+        fewest();
         CellarPlot none = new CellarPlot();
         due("P13 no MEN", none.best(12, 0), 0);
         due("P13 no MEN, TRUTHS", none.best(12, 1), 11);
         due("P13 no MEN, FRIGHT", none.best(2, 2), 0);
         due("P13 no MEN, no FRIGHT", none.best(1, 2), NEVER);
+    }
+
+    /** {2} and {0, 1} UP have one TRUTH behind 2, by a silence on the second DAY or on the first. */
+    private static void fewest() {
+        CellarPlot x = new CellarPlot();
+        x.man(0, 0, 0);
+        x.man(0, 0, 0);
+        x.man(0, 0, 0);
+        Due.charter(x, "loud 45 p<2&d=0;loud 90 p=2&d=1;calm 60");
+        x.fear(34);
+        due("P13 the fewest, not the least bits", x.best(2, 0), 4);
+        due("P13 how many then", x.best(2, 1), 1);
+        Due.charter(x, "calm 16;loud 19 p=1&d=1;loud 61 p=2&d=0");
+        x.fear(49);
+        due("P13 of as few, the least bits", x.best(2, 0), 2);
+        due("P13 how many then", x.best(2, 1), 1);
     }
 
     private static void fright() {

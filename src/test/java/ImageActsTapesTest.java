@@ -13,6 +13,7 @@ public final class ImageActsTapesTest {
         judge();
         image();
         imageOfMen();
+        imageOfRows();
         acts();
         refusedActs();
         taken();
@@ -58,6 +59,7 @@ public final class ImageActsTapesTest {
         due("P22 far beyond", x.judge(0, MOST), 100);
         due("P22 below 0", x.judge(0, -1), 100);
         due("P22 far below", x.judge(0, LEAST), 100);
+        due("P22 the last tape", x.judge(5, 0), 100);
         for (int sort = 0; sort <= 4; sort++) {
             x.tape(2, sort, 3);
             due("P22 sort " + sort, x.judge(2, 0), sort == 2 ? 0 : CAST);
@@ -145,6 +147,30 @@ public final class ImageActsTapesTest {
         due("P2 a new one's SPELL", x.of(0, 4), 0);
         due("P2 a new one is below", x.of(0, 3), 0);
         due("P2 a new one's ROW", x.row(0, 0, 0), 0);
+    }
+
+    /** The second number of each row is theirs, too. */
+    private static void imageOfRows() {
+        CellarPlot x = new CellarPlot();
+        x.man(1, 5, 4);
+        x.man(1, 0, 0);
+        x.hear(0, 4);
+        x.book(0, 4);
+        x.plan(1, 1);
+        x.image();
+        x.hear(-1, 0);
+        x.hear(0, 9);
+        x.book(-1, 0);
+        x.book(0, 9);
+        x.plan(-1, 0);
+        x.plan(1, 0);
+        x.plan(0, 0);
+        due("P19 ahead of undo", x.ends(0), 50);
+        x.undo();
+        due("P24 HEARD", x.of(0, 6), 0xf0);
+        due("P24 the BOOK", x.looked(), NEVER);
+        x.plan(0, 0);
+        due("P24 the PLAN", x.ends(0), 0);
     }
 
     private static void act(CellarPlot x, int man, int act, int in, int out, int... bodies) {
@@ -263,13 +289,16 @@ public final class ImageActsTapesTest {
         due("P29 60", x.tape(5, 3, 60), 1);
         due("P29 the 60th", x.item(5, 59, -7), 1);
         due("P29 no 61st", x.item(5, 60, 0), PLACE);
+        x.item(5, 0, 8);
         due("P29 refused: stays", x.tape(5, 3, 61), BAD);
         due("P29 stays", x.read(5, 59), -7);
         due("P29 new, all 0", x.tape(5, 3, 60), 1);
         due("P29 0", x.read(5, 59), 0);
+        due("P29 0 at first", x.read(5, 0), 0);
         x.item(5, 2, 9);
         due("P29 becomes nothing", x.tape(5, -1, 0), 1);
         due("P29 nothing", x.read(5, 2), NO);
+        due("P29 nothing at first", x.read(5, 0), NO);
         due("P29 shorter", x.tape(5, 2, 2), 1);
         due("P29 no third", x.read(5, 2), NO);
     }
@@ -349,6 +378,8 @@ public final class ImageActsTapesTest {
         due("P32 nothing there", x.shift(3, -1, 2, 0, 0), NOTHING);
         due("P32 nothing at the other", x.shift(0, -1, 3, 0, 0), NOTHING);
         due("P32 CAST", x.shift(0, -1, 2, 0, 0), CAST);
+        x.tape(5, 2, 1);
+        due("P32 from the last tape", x.shift(5, 0, 5, 0, 1), 1);
         due("P32 n below 0", x.shift(0, 0, 1, 0, -1), PLACE);
         due("P32 i below 0", x.shift(0, -1, 1, 0, 1), PLACE);
         due("P32 j below 0", x.shift(0, 0, 1, -1, 1), PLACE);

@@ -322,6 +322,23 @@ public final class MenTest {
         due("P9 THE TEXT stays", x.count(5), 4);
         due("P9 six", x.count(1), 6);
         due("P9 the sixth holds", x.told(1), 5);
+        charterBehindFaults();
+    }
+
+    private static void charterBehindFaults() {
+        CellarPlot x = new CellarPlot();
+        x.man(0, 0, 0);
+        for (int n = 0; n < 10; n++) {
+            due("P9 a fault at the end", Due.charter(x, "calm 7;loud 9 p=0|p=0|p=0|p=0|p=0|p=0|p=0|p=0|p=0|p=0|p=0|p=0|"), -10 - 62);
+        }
+        due("P9 good behind faults", Due.charter(x, "loud 1 p=0&p=0"), 0);
+        due("P9 nothing of a fault's CLAUSES", x.told(5), 1);
+        due("P9 nor of its CALM", x.told(1), 10);
+        Due.charter(x, "loud 1 p=0;loud 2 p<1;hush 3 !p=1;loud 4 p=9;");
+        due("P9 of few CLAUSES behind a fault", Due.charter(x, "calm 3"), 1);
+        due("P9 no SOUND by it", x.of(0, 5), 0);
+        Due.charter(x, "calm 1;calm 1;calm 1;calm 1;calm 1;calm 1;calm 1;calm 1;loud 2 v=0;loud 3 n=0");
+        due("P9 ten CLAUSES", x.of(0, 5), 5);
     }
 
     /** SOUND of a lone MAN 0 with NERVE 0 is the n of those that hold. */
