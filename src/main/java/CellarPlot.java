@@ -608,8 +608,8 @@ public final class CellarPlot {
             case BYTES: return (byte) v;
             case SHORTS: return (short) v;
             case INTS: return (int) v;
-            case BOOLEANS: return v != 0 ? 1 : 0;
-            default: return v;
+            case LONGS: return v;
+            default: return v != 0 ? 1 : 0;
         }
     }
 

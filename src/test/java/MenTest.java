@@ -328,7 +328,7 @@ public final class MenTest {
     private static void charterBehindFaults() {
         CellarPlot x = new CellarPlot();
         x.man(0, 0, 0);
-        for (int n = 0; n < 10; n++) {
+        for (int n = 0; n < 5; n++) {
             due("P9 a fault at the end", Due.charter(x, "calm 7;loud 9 p=0|p=0|p=0|p=0|p=0|p=0|p=0|p=0|p=0|p=0|p=0|p=0|"), -10 - 62);
         }
         due("P9 good behind faults", Due.charter(x, "loud 1 p=0&p=0"), 0);

@@ -14,6 +14,8 @@ import java.util.regex.Pattern;
 public final class ModelTest {
     private static final int OBJECTS = Integer.getInteger("objects", 300);
     private static final int CALLS = 512;
+    /** A text of 104 signs, and charter(). */
+    private static final int DEAREST_STEP = 105;
 
     // ---- the model: men
 
@@ -737,12 +739,15 @@ public final class ModelTest {
     private static CellarPlot x;
     private static Model m;
     private static int run;
+    /** How many calls this object has had: behind the 512th nothing is promised. */
+    private static int calls;
 
     private static void due(String call, long got, long want) {
+        calls++;
         Due.due("object " + run + ": " + call, got, want);
     }
 
-    private static int feedText(int calls) {
+    private static void feedText() {
         String text = anyText();
         for (int i = 0; i < text.length(); i++) {
             due("feed " + text.charAt(i), x.feed(text.charAt(i)), m.feed(text.charAt(i)));
@@ -750,7 +755,6 @@ public final class ModelTest {
         if (any(8) > 0) {
             due("charter of " + text, x.charter(), m.charter());
         }
-        return text.length() + 1;
     }
 
     private static void anyCall() {
@@ -827,15 +831,16 @@ public final class ModelTest {
         for (run = 0; run < OBJECTS; run++) {
             seed = run * 7919L + 17;
             KNOWN.clear();
+            calls = 0;
             x = new CellarPlot();
             m = new Model();
             for (int men = any(7); men > 0; men--) {
                 int k = from(0, 6), v = from(0, 9), n = from(0, 20);
                 due("man", x.man(k, v, n), m.man(k, v, n));
             }
-            for (int calls = 0; calls < CALLS - 110; calls++) {
+            while (calls <= CALLS - DEAREST_STEP) {
                 int r = any(100);
-                if (r < 2) calls += feedText(calls);
+                if (r < 2) feedText();
                 else if (r < 4) fillSpells();
                 else anyCall();
             }

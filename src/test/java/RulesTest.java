@@ -17,6 +17,9 @@ public final class RulesTest {
         "trace", "taken", "count", "tape", "item", "read", "shift");
     private static final Set<String> CONSTANTS = Set.of("NONE", "BAD", "STATE", "FULL", "NO");
 
+    /** How often the dear calls come; many stay within the 512 calls of an object. */
+    private static final int FEW = 10, MANY = 100;
+
     public static void main(String[] args) throws Exception {
         face();
         inside();
@@ -100,14 +103,14 @@ public final class RulesTest {
             .getThreadAllocatedBytes(Thread.currentThread().getId());
     }
 
-    /** One object, and 512 calls of each of the dear ones, take the room of one object and its charters. */
-    private static long roomOf(int kindOfCall) {
+    /** What one object takes, and so many times the dear calls of a kind, at most five of them at a time. */
+    private static long roomOf(int kindOfCall, int times) {
         long before = taken();
         CellarPlot x = new CellarPlot();
         for (int n = 0; n < 6; n++) {
             x.man(n + 1, n, n);
         }
-        for (int n = 0; n < 512; n++) {
+        for (int n = 0; n < times; n++) {
             switch (kindOfCall) {
                 case 0: x.charter(); break;
                 case 1: x.best(12, n % 3); break;
@@ -125,9 +128,11 @@ public final class RulesTest {
 
     private static void room() {
         for (int kindOfCall = 0; kindOfCall < 9; kindOfCall++) {
-            roomOf(kindOfCall);
-            long bytes = roomOf(kindOfCall);
-            is("room of calls " + kindOfCall + ": " + bytes + " bytes", bytes < 20000);
+            roomOf(kindOfCall, MANY);
+            long few = roomOf(kindOfCall, FEW);
+            long many = roomOf(kindOfCall, MANY);
+            is("room of an object, calls " + kindOfCall + ": " + many + " bytes", many < 20000);
+            is("room of calls " + kindOfCall + " alone: " + (many - few) + " bytes", many - few < 16 * (MANY - FEW) / 2);
         }
     }
 }
