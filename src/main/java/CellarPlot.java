@@ -15,8 +15,8 @@ public final class CellarPlot {
     private static final int KINDS = 7;
     private static final int MOST_MEN = 6, MOST_V = 9, MOST_NERVE = 20, MOST_ROW = 9, PARTS = 4;
 
-    /** The bound of numbers that are so; what is asked goes beyond it, up to UNBOUND. */
-    private static final int MOST_SO = 9999, UNBOUND = Integer.MAX_VALUE;
+    /** The bound of numbers that are so; what is asked goes beyond it, and comes nowhere near UNBOUND. */
+    private static final int MOST_SO = 9999, UNBOUND = 1_000_000;
     private static final int TRUTH_FEAR = 100, SILENCE_FEAR = 50, CALM_WITHOUT = 10;
 
     private static final int MOST_DAYS = 60, MOST_BEST_DAYS = 12, MOST_HEARD_DAYS = 12, MOST_ODDS_DAYS = 20;

@@ -24,6 +24,7 @@ public final class RulesTest {
         face();
         inside();
         words();
+        library();
         room();
         Due.end();
     }
@@ -95,6 +96,23 @@ public final class RulesTest {
                 is("rule 11: a short method ends at: " + line, lines <= 60);
                 lines = 0;
             }
+        }
+    }
+
+    /** Each name behind a class's name, and each call on a text, is one of those that rule 4 lists. */
+    private static void library() throws Exception {
+        String source = Files.readString(Path.of("src/main/java/CellarPlot.java"));
+        String code = source.replaceAll("(?s)/\\*.*?\\*/", " ").replaceAll("//[^\n]*", " ");
+        Set<String> listed = Set.of("Long.MIN_VALUE", "Integer.bitCount", "Math.abs", "Math.max", "Math.min", "System.arraycopy",
+            "LETTERS.indexOf");
+        Matcher names = Pattern.compile("\\b[A-Z]\\w*\\.\\w+").matcher(code);
+        while (names.find()) {
+            is("rule 4: " + names.group(), listed.contains(names.group()));
+        }
+        Matcher types = Pattern.compile("\\bnew (\\w+)").matcher(code);
+        Set<String> made = Set.of("int", "long", "byte", "Cellar", "Charter", "Text", "Acts", "Tape", "Rows");
+        while (types.find()) {
+            is("rules 3, 4: new " + types.group(1), made.contains(types.group(1)));
         }
     }
 
